@@ -1,0 +1,182 @@
+/** Monitors, waiting, and promise 13: stuck. */
+public final class MonitorTest {
+    public static void main(String[] args) {
+        enteredOften();
+        heldByAnother();
+        waiting();
+        endedHoldsNone();
+        endedByFailureHoldsNone();
+        stuckInARing();
+        notStuck();
+        waitingWithoutRoom();
+        Check.end();
+    }
+
+    private static void enteredOften() {
+        JudgedCodes x = new JudgedCodes();
+        Check.code(x, 0, 0, "2", Check.NEW, 0, Check.STORE, 0, Check.LOAD, 0, Check.ENTER, 0, Check.LOAD, 0,
+                Check.ENTER, 0, Check.LOAD, 0, Check.LEAVE, 0, Check.LOAD, 0, Check.LEAVE, 0, Check.LOAD, 0,
+                Check.LEAVE, 0, Check.RETURN, 0);
+        x.thread(0);
+        int[] holder = {-1, 0, 0, 0, -1};
+        int[] often = {0, 1, 2, 1, 0};
+        for (int i = 0; i < 5; i++) {
+            x.run(0, 2);
+            Check.due("its holder", x.object(1, 1), holder[i]);
+            Check.due("how often", x.object(1, 2), often[i]);
+        }
+        Check.due("once too often", x.run(0, 2), 2);
+        Check.due("the failure", x.object(x.told(0, 2), 0), 8);
+    }
+
+    /** Thread 0 makes global 0 and holds it; 1 is to leave it, 2 to enter it and to leave it again. */
+    private static JudgedCodes held() {
+        JudgedCodes x = new JudgedCodes();
+        Check.code(x, 0, 0, "", Check.NEW, 0, Check.SET_GLOBAL, 0, Check.GLOBAL, 0, Check.ENTER, 0, Check.GLOBAL, 0,
+                Check.LEAVE, 0, Check.JUMP, 6);
+        Check.code(x, 0, 0, "", Check.GLOBAL, 0, Check.LEAVE, 0, Check.RETURN, 0);
+        Check.code(x, 0, 1, "", Check.GLOBAL, 0, Check.ENTER, 0, Check.GLOBAL, 0, Check.LEAVE, 0, Check.PUSH, 9,
+                Check.RETURN, 0);
+        for (int t = 0; t < 3; t++) {
+            Check.due("thread " + t, x.thread(t), t);
+        }
+        x.run(0, 4);
+        return x;
+    }
+
+    private static void heldByAnother() {
+        JudgedCodes x = held();
+        Check.due("leave of what another one holds", x.run(1, 9), 2);
+        Check.due("is a failure", x.object(x.told(1, 2), 0), 8);
+        Check.due("which leaves it held", x.object(1, 1), 0);
+        Check.due("once", x.object(1, 2), 1);
+    }
+
+    private static void waiting() {
+        JudgedCodes x = held();
+        x.run(1, 9);
+        Check.due("a step before it waits", x.run(2, 1), 0);
+        Check.due("it waits", x.run(2, 9), 3);
+        Check.due("for object 1", x.told(2, 6), 1);
+        Check.due("one step was done", x.told(2, 0), 1);
+        Check.due("at the enter", x.told(2, 4), 1);
+        Check.due("nothing was taken", x.value(2, 0), 1);
+        Check.due("it waits on", x.run(2, 9), 3);
+        Check.due("still one step", x.told(2, 0), 1);
+        Check.due("the other one may go on", x.stuck(), 0);
+        Check.due("it leaves", x.run(0, 2), 0);
+        Check.due("none holds it", x.object(1, 1), -1);
+        Check.due("now it enters", x.run(2, 1), 0);
+        Check.due("and waits for none", x.told(2, 6), 0);
+        Check.due("it holds it", x.object(1, 1), 2);
+        Check.due("its end", x.run(2, 9), 1);
+        Check.due("its outcome", x.told(2, 2), 9);
+        Check.due("none holds it again", x.object(1, 1), -1);
+    }
+
+    private static void endedHoldsNone() {
+        JudgedCodes x = new JudgedCodes();
+        Check.code(x, 0, 0, "2", Check.NEW, 0, Check.DUP, 0, Check.ENTER, 0, Check.DUP, 0, Check.ENTER, 0,
+                Check.ENTER, 0, Check.NEW, 1, Check.ENTER, 0, Check.RETURN, 0);
+        x.thread(0);
+        x.run(0, 8);
+        Check.due("held three times", x.object(1, 2), 3);
+        Check.due("the second is held", x.object(2, 1), 0);
+        Check.due("the end", x.run(0, 1), 1);
+        for (int o = 1; o <= 2; o++) {
+            Check.due("held by none", x.object(o, 1), -1);
+            Check.due("not once", x.object(o, 2), 0);
+        }
+    }
+
+    private static void endedByFailureHoldsNone() {
+        JudgedCodes x = new JudgedCodes();
+        Check.code(x, 0, 0, "", Check.CALL, 1, Check.RETURN, 0, Check.THROW, 0);
+        x.row(0, 1, 2, 6);
+        Check.code(x, 0, 0, "", Check.NEW, 0, Check.ENTER, 0, Check.NULL, 0, Check.THROW, 0);
+        x.thread(0);
+        x.run(0, 5);
+        Check.due("a frame that ends does not leave", x.object(1, 1), 0);
+        Check.due("the frame has ended", x.told(0, 1), 1);
+        Check.due("the thread ends by it", x.run(0, 1), 2);
+        Check.due("and holds nothing", x.object(1, 1), -1);
+    }
+
+    /** Code t makes global t, enters it, and then enters the next one of a ring. */
+    private static JudgedCodes ring(int size) {
+        JudgedCodes x = new JudgedCodes();
+        for (int t = 0; t < size; t++) {
+            Check.code(x, 0, 0, "", Check.NEW, t, Check.SET_GLOBAL, t, Check.GLOBAL, t, Check.ENTER, 0,
+                    Check.GLOBAL, (t + 1) % size, Check.ENTER, 0, Check.RETURN, 0);
+        }
+        for (int t = 0; t < size; t++) {
+            x.thread(t);
+            x.run(t, 4);
+        }
+        return x;
+    }
+
+    private static void stuckInARing() {
+        for (int size = 2; size <= 4; size++) {
+            JudgedCodes x = ring(size);
+            for (int t = 0; t < size; t++) {
+                Check.due("not all wait yet", x.stuck(), 0);
+                Check.due("thread " + t + " waits", x.run(t, 9), 3);
+                Check.due("for the next one's", x.told(t, 6), (t + 1) % size + 1);
+            }
+            Check.due("all are stuck", x.stuck(), size);
+            Check.due("it stays so", x.run(0, 9), 3);
+            Check.due("all are stuck still", x.stuck(), size);
+            x.thread(0);
+            Check.due("a new one could go on", x.stuck(), 0);
+            x.reset();
+            Check.due("no threads", x.stuck(), 0);
+        }
+    }
+
+    private static void notStuck() {
+        JudgedCodes x = ring(2);
+        x.run(0, 9);
+        x.run(1, 9);
+        x.thread(0);
+        Check.due("a new thread has not ended", x.stuck(), 0);
+        JudgedCodes y = held();
+        y.run(1, 9);
+        y.run(2, 9);
+        Check.due("the holder does not wait", y.stuck(), 0);
+        JudgedCodes z = new JudgedCodes();
+        Check.code(z, 0, 0, "", Check.NEW, 0, Check.DUP, 0, Check.SET_GLOBAL, 0, Check.ENTER, 0, Check.RETURN, 0);
+        Check.code(z, 0, 0, "", Check.GLOBAL, 0, Check.ENTER, 0, Check.RETURN, 0);
+        z.thread(0);
+        z.thread(1);
+        z.run(0, 4);
+        Check.due("it waits", z.run(1, 9), 3);
+        Check.due("the holder ends", z.run(0, 1), 1);
+        Check.due("the one that waits could go on", z.stuck(), 0);
+        Check.due("and does", z.run(1, 9), 1);
+        Check.due("all have ended", z.stuck(), 0);
+    }
+
+    /** An ended thread beside those that are stuck does not count, and no step is begun without room. */
+    private static void waitingWithoutRoom() {
+        JudgedCodes x = new JudgedCodes();
+        Check.code(x, 0, 0, "", Check.RETURN, 0);
+        Check.code(x, 0, 0, "", Check.NEW, 5, Check.POP, 0, Check.JUMP, 0);
+        for (int t = 0; t < 2; t++) {
+            Check.code(x, 0, 0, "", Check.NEW, t, Check.SET_GLOBAL, t, Check.GLOBAL, t, Check.ENTER, 0,
+                    Check.GLOBAL, 1 - t, Check.ENTER, 0, Check.RETURN, 0);
+        }
+        x.thread(0);
+        x.thread(2);
+        x.thread(3);
+        x.run(0, 9);
+        x.run(1, 4);
+        x.run(2, 9);
+        x.run(1, 9);
+        Check.due("two of three are stuck", x.stuck(), 2);
+        x.thread(1);
+        x.run(3, 10000);
+        Check.due("a thread that waits, without room", x.run(1, 1), -12);
+        Check.due("it waits on", x.told(1, 6), 2);
+    }
+}
