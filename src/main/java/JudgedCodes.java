@@ -698,7 +698,7 @@ public final class JudgedCodes {
             }
         }
 
-        Code code() {
+        Code ownCode() {
             return code;
         }
 
@@ -781,6 +781,10 @@ public final class JudgedCodes {
             return number;
         }
 
+        int frameCount() {
+            return frameCount;
+        }
+
         boolean hasAllFrames() {
             return frameCount >= MOST_FRAMES;
         }
@@ -838,7 +842,7 @@ public final class JudgedCodes {
                 case 0 -> steps;
                 case 1 -> frameCount;
                 case 2 -> outcome;
-                case 3 -> top == null || top.code() == null ? -1 : top.code().number;
+                case 3 -> top == null || top.ownCode() == null ? -1 : top.ownCode().number;
                 case 4 -> top == null ? -1 : top.at();
                 case 5 -> top == null ? 0 : top.depth();
                 case 6 -> awaited;
@@ -928,7 +932,7 @@ public final class JudgedCodes {
         /** Whether a step was done; if not, the thread waits. */
         private boolean tryStep(Strand strand) {
             Frame frame = strand.top();
-            Code code = frame == null ? null : frame.code();
+            Code code = frame == null ? null : frame.ownCode();
             if (code == null) {
                 return false;
             }
@@ -1049,7 +1053,7 @@ public final class JudgedCodes {
         }
 
         private void giveBack(Strand strand, Frame frame) {
-            boolean gives = frame.code() != null && frame.code().result != NO_KIND;
+            boolean gives = frame.ownCode() != null && frame.ownCode().result != NO_KIND;
             int result = gives ? frame.pop() : 0;
             strand.endFrame();
             Frame caller = strand.top();
@@ -1066,9 +1070,9 @@ public final class JudgedCodes {
         private void raise(Strand strand, int o) {
             Thing thing = heap.find(o);
             int kind = thing == null ? NULL_FAILURE : thing.kind();
-            for (int i = 0; i < MOST_FRAMES; i++) {
+            for (int left = strand.frameCount(); left > 0; left--) {
                 Frame frame = strand.top();
-                Code code = frame == null ? null : frame.code();
+                Code code = frame == null ? null : frame.ownCode();
                 int taker = code == null ? -1 : code.takerOf(frame.at(), kind);
                 if (taker >= 0) {
                     frame.holdOnly(o);

@@ -11,6 +11,7 @@ public final class JudgingTest {
         takers();
         calls();
         parameters();
+        judgedInTurn();
         returns();
         Check.end();
     }
@@ -133,6 +134,8 @@ public final class JudgingTest {
         bad("something behind a return", Check.judged(0, "", Check.RETURN, 0, Check.RETURN, 0));
         bad("something behind a jump", Check.judged(0, "", Check.JUMP, 0, Check.RETURN, 0));
         bad("something behind a throw", Check.judged(0, "", Check.NULL, 0, Check.THROW, 0, Check.RETURN, 0));
+        good("values below a throw, and a label behind it", Check.judged(0, "", Check.PUSH, 0, Check.ZERO, 5,
+                Check.PUSH, 1, Check.NULL, 0, Check.THROW, 0, Check.RETURN, 0));
         good("a label behind a return",
                 Check.judged(0, "", Check.PUSH, 0, Check.ZERO, 3, Check.RETURN, 0, Check.RETURN, 0));
     }
@@ -155,6 +158,7 @@ public final class JudgingTest {
         bad("a zero jump to the end", Check.judged(0, "", Check.PUSH, 0, Check.ZERO, 3, Check.RETURN, 0));
         bad("a none jump far behind", Check.judged(0, "", Check.NULL, 0, Check.NONE, 1000, Check.RETURN, 0));
         bad("load of no local", Check.judged(1, "1", Check.LOAD, 1, Check.RETURN, 0));
+        bad("load of no local below a throw", Check.judged(0, "", Check.LOAD, 0, Check.NULL, 0, Check.THROW, 0));
         bad("load of local -1", Check.judged(1, "1", Check.LOAD, -1, Check.RETURN, 0));
         good("load of the last local", Check.judged(1, "21", Check.LOAD, 1, Check.RETURN, 0));
         bad("load of a local of another kind", Check.judged(1, "21", Check.LOAD, 0, Check.RETURN, 0));
@@ -186,6 +190,7 @@ public final class JudgingTest {
 
     private static void takers() {
         bad("a taker that is the beginning", judgedWithRow(0, 2, 0, Check.POP, 0, Check.RETURN, 0));
+        bad("a taker that is the beginning, without pop", judgedWithRow(0, 1, 0, Check.RETURN, 0));
         bad("a taker with a row in front", judgedWithRow(0, 1, 1, Check.NULL, 0, Check.POP, 0, Check.RETURN, 0));
         bad("a taker reached with no value",
                 judgedWithRow(0, 1, 2, Check.NULL, 0, Check.POP, 0, Check.POP, 0, Check.RETURN, 0));
@@ -227,6 +232,9 @@ public final class JudgingTest {
         Check.due("a call of code -1", x.judge(7), 0);
         Check.code(x, 0, 1, "", Check.CALL, 8, Check.RETURN, 0);
         Check.due("a call of itself", x.judge(8), 1);
+        Check.code(x, 1, 0, "", Check.RETURN, 0);
+        Check.code(x, 0, 0, "", Check.PUSH, 0, Check.CALL, 9, Check.RETURN, 0);
+        Check.due("a call of a code whose parameter is not told", x.judge(10), 0);
     }
 
     private static void parameters() {
@@ -240,6 +248,19 @@ public final class JudgingTest {
         Check.due("two locals for two parameters", x.judge(0), 1);
         x.local(2);
         Check.due("three locals for two parameters", x.judge(0), 1);
+    }
+
+    /** What one code names is nothing to another one. */
+    private static void judgedInTurn() {
+        JudgedCodes x = new JudgedCodes();
+        Check.code(x, 0, 0, "", Check.PUSH, 0, Check.POP, 0, Check.RETURN, 0);
+        Check.code(x, 0, 0, "", Check.PUSH, 0, Check.POP, 0, Check.RETURN, 0, Check.RETURN, 0);
+        x.row(0, 1, 0, 10);
+        x.row(1, 3, 2, 10);
+        for (int i = 0; i < 2; i++) {
+            Check.due("the bad one", x.judge(1), 0);
+            Check.due("the good one", x.judge(0), 1);
+        }
     }
 
     private static void returns() {

@@ -93,6 +93,12 @@ public final class LookingTest {
         x.run(0, 99);
         Check.due("of an ended thread", x.value(0, 0), 0);
         Check.due("a local of an ended thread", x.value(0, -2), 0);
+        JudgedCodes y = new JudgedCodes();
+        Check.code(y, 0, 0, "11111111", Check.PUSH, 6, Check.STORE, 7, Check.RETURN, 0);
+        y.thread(0);
+        y.run(0, 2);
+        Check.due("local 7", y.value(0, -8), 6);
+        Check.due("local 8", y.value(0, -9), 0);
     }
 
     private static void globals() {

@@ -66,6 +66,7 @@ public final class MonitorTest {
         Check.due("the other one may go on", x.stuck(), 0);
         Check.due("it leaves", x.run(0, 2), 0);
         Check.due("none holds it", x.object(1, 1), -1);
+        Check.due("it could go on", x.stuck(), 0);
         Check.due("now it enters", x.run(2, 1), 0);
         Check.due("and waits for none", x.told(2, 6), 0);
         Check.due("it holds it", x.object(1, 1), 2);

@@ -15,6 +15,7 @@ public final class ResetTest {
         runMaker(x);
         x.reset();
         newCodes(x);
+        amidCallsAndWaiting();
         Check.end();
     }
 
@@ -22,7 +23,8 @@ public final class ResetTest {
     private static void tellMaker(JudgedCodes x) {
         x.local(2);
         int[] pairs = {Check.LOAD, 0, Check.NONE, 3, Check.JUMP, 0, Check.NEW, 3, Check.STORE, 0, Check.LOAD, 0,
-                Check.PUSH, 8, Check.PUT, 1, Check.LOAD, 0, Check.SET_GLOBAL, 2, Check.LOAD, 0, Check.ENTER, 0,
+                Check.PUSH, 8, Check.PUT, 0, Check.LOAD, 0, Check.LOAD, 0, Check.REF_PUT, 7, Check.LOAD, 0,
+                Check.SET_GLOBAL, 0, Check.LOAD, 0, Check.SET_GLOBAL, 3, Check.LOAD, 0, Check.ENTER, 0,
                 Check.LOAD, 0, Check.RETURN, 0};
         for (int i = 0; i < pairs.length; i += 2) {
             x.add(pairs[i], pairs[i + 1]);
@@ -42,12 +44,14 @@ public final class ResetTest {
         Check.due("its steps at first", x.told(0, 0), 0);
         Check.due("its outcome at first", x.told(0, 2), 0);
         Check.due("its local at first", x.value(0, -1), 0);
-        Check.due("run to the last but one", x.run(0, 11), 0);
+        Check.due("run to the last but one", x.run(0, 16), 0);
         Check.due("an object from 1 on", x.value(0, -1), 1);
-        Check.due("its field", x.object(1, 11), 8);
+        Check.due("its field", x.object(1, 10), 8);
+        Check.due("its ref field", x.object(1, 17), 1);
         Check.due("held", x.object(1, 1), 0);
         Check.due("once", x.object(1, 2), 1);
-        Check.due("a global", x.global(2), 1);
+        Check.due("a global", x.global(0), 1);
+        Check.due("another one", x.global(3), 1);
         Check.due("a second object", x.object(2, 0), -14);
     }
 
@@ -70,7 +74,9 @@ public final class ResetTest {
         Check.due("its end", x.run(0, 9), 1);
         Check.due("its object", x.told(0, 2), 1);
         Check.due("its kind", x.object(1, 0), 7);
-        Check.due("its field", x.object(1, 11), 0);
+        for (int i = 10; i <= 17; i++) {
+            Check.due("its field " + i, x.object(1, i), 0);
+        }
         Check.due("its holder", x.object(1, 1), -1);
         Check.due("how often", x.object(1, 2), 0);
         x.reset();
@@ -80,5 +86,29 @@ public final class ResetTest {
         Check.due("the next code", x.code(0, 0), 3);
         Check.due("it is open", x.add(Check.RETURN, 0), 0);
         Check.due("a thread of it", x.thread(3), 0);
+    }
+
+    /** Threads that begin anew know nothing of the frames and the waiting of those before them. */
+    private static void amidCallsAndWaiting() {
+        JudgedCodes x = new JudgedCodes();
+        Check.code(x, 0, 0, "", Check.CALL, 1, Check.RETURN, 0);
+        Check.code(x, 0, 0, "", Check.GLOBAL, 0, Check.NONE, 5, Check.GLOBAL, 0, Check.ENTER, 0, Check.JUMP, 0,
+                Check.NEW, 0, Check.SET_GLOBAL, 0, Check.JUMP, 0);
+        x.thread(0);
+        x.thread(0);
+        Check.due("thread 0 enters", x.run(0, 12), 0);
+        Check.due("thread 1 waits", x.run(1, 12), 3);
+        Check.due("for object 1", x.told(1, 6), 1);
+        x.reset();
+        x.thread(0);
+        Check.due("thread 1 is gone", x.told(1, 6), -14);
+        x.thread(0);
+        for (int t = 0; t < 2; t++) {
+            int[] want = {0, 1, 0, 0, 0, 0, 0};
+            for (int what = 0; what < 7; what++) {
+                Check.due("anew: told(" + t + ", " + what + ")", x.told(t, what), want[what]);
+            }
+            Check.due("anew: run", x.run(t, 0), 0);
+        }
     }
 }

@@ -15,6 +15,7 @@ public final class RunningTest {
         rowsInOrder();
         rowsCover();
         thrownThroughFrames();
+        calledAgain();
         depth();
         room();
         roomForLife();
@@ -58,6 +59,8 @@ public final class RunningTest {
         binary(Check.DIV, 7, 2, 3);
         binary(Check.DIV, -7, 2, -3);
         binary(Check.DIV, 0, 5, 0);
+        binary(Check.DIV, 7, 1, 7);
+        binary(Check.DIV, -7, -2, 3);
         binary(Check.DIV, MIN, -1, MIN);
         binary(Check.LESS, 3, 4, 1);
         binary(Check.LESS, 4, 3, 0);
@@ -225,6 +228,21 @@ public final class RunningTest {
         Check.due("the end", x.run(0, 1), 1);
     }
 
+    /** A frame that a failure ended leaves no values to the next one. */
+    private static void calledAgain() {
+        JudgedCodes x = new JudgedCodes();
+        Check.code(x, 0, 0, "", Check.CALL, 1, Check.RETURN, 0, Check.POP, 0, Check.JUMP, 0);
+        x.row(0, 1, 2, 10);
+        Check.code(x, 0, 0, "1", Check.PUSH, 8, Check.STORE, 0, Check.PUSH, 5, Check.NULL, 0, Check.THROW, 0);
+        x.thread(0);
+        x.run(0, 8);
+        Check.due("once more at the call", x.told(0, 4), 0);
+        x.run(0, 1);
+        Check.due("in the called code", x.told(0, 3), 1);
+        Check.due("without values", x.told(0, 5), 0);
+        Check.due("with its local at first", x.value(0, -1), 0);
+    }
+
     private static void depth() {
         JudgedCodes x = new JudgedCodes();
         Check.code(x, 0, 0, "", Check.CALL, 0, Check.RETURN, 0);
@@ -234,6 +252,7 @@ public final class RunningTest {
         Check.due("one call more", x.run(0, 1), 2);
         Check.due("its failure", x.object(x.told(0, 2), 0), 9);
         Check.due("30 steps", x.told(0, 0), 30);
+        Check.due("no frames", x.told(0, 1), 0);
         JudgedCodes y = new JudgedCodes();
         Check.code(y, 0, 1, "", Check.CALL, 0, Check.RETURN, 0, Check.POP, 0, Check.PUSH, 5, Check.RETURN, 0);
         y.row(0, 2, 2, 9);

@@ -4,6 +4,7 @@ public final class ThreadTest {
         numbers();
         refused();
         ledToByCalls();
+        ledToByTheLastOfManyCalls();
         refusedBeforeFull();
         Check.end();
     }
@@ -47,7 +48,6 @@ public final class ThreadTest {
         Check.due("though it is good itself", x.judge(0), 1);
         Check.code(x, 0, 0, "", Check.RETURN, 0);
         Check.due("a thread of a code that calls none", x.thread(4), 0);
-        x.reset();
         JudgedCodes y = new JudgedCodes();
         for (int i = 0; i < 40; i++) {
             Check.code(y, 0, 0, "", Check.CALL, Math.min(i + 1, 39), Check.RETURN, 0);
@@ -59,6 +59,19 @@ public final class ThreadTest {
         }
         Check.code(z, 0, 0, "", Check.CALL, 0);
         Check.due("a chain of forty, the last not good", z.thread(0), -1);
+    }
+
+    private static void ledToByTheLastOfManyCalls() {
+        JudgedCodes x = new JudgedCodes();
+        x.code(0, 0);
+        for (int i = 0; i < 50; i++) {
+            x.add(Check.CALL, i % 2);
+        }
+        x.add(Check.CALL, 2);
+        x.add(Check.RETURN, 0);
+        Check.code(x, 0, 0, "", Check.CALL, 0, Check.RETURN, 0);
+        Check.code(x, 0, 0, "", Check.PUSH, 0, Check.RETURN, 0);
+        Check.due("the last call of many leads to a code that is not good", x.thread(0), -1);
     }
 
     private static void refusedBeforeFull() {
