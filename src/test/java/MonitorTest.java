@@ -63,9 +63,11 @@ public final class MonitorTest {
         Check.due("nothing was taken", x.value(2, 0), 1);
         Check.due("it waits on", x.run(2, 9), 3);
         Check.due("still one step", x.told(2, 0), 1);
+        Check.due("no step is asked for, and it waits", x.run(2, 0), 3);
         Check.due("the other one may go on", x.stuck(), 0);
         Check.due("it leaves", x.run(0, 2), 0);
         Check.due("none holds it", x.object(1, 1), -1);
+        Check.due("it waits until it is run again", x.told(2, 6), 1);
         Check.due("it could go on", x.stuck(), 0);
         Check.due("now it enters", x.run(2, 1), 0);
         Check.due("and waits for none", x.told(2, 6), 0);

@@ -43,6 +43,8 @@ public final class TellingTest {
         Check.due("a 41st code", x.code(0, 0), -12);
         Check.due("a 41st code with 9 parameters", x.code(9, 0), -1);
         Check.due("the latest is still open", x.add(0, 0), 0);
+        Check.due("judge(40) with 40 codes", x.judge(40), -14);
+        Check.due("thread(40) with 40 codes", x.thread(40), -14);
     }
 
     private static void codesAndThreads() {
