@@ -66,6 +66,9 @@ public final class JudgedCodes {
     private static final int ENDED_BY_FAILURE = 2;
     private static final int WAITS = 3;
 
+    /** What told() asks for that a thread alone cannot tell: it hangs on who holds the monitor. */
+    private static final int AWAITED = 6;
+
     private final Codes codes;
     private final Judge judge;
     private final Heap heap;
@@ -133,7 +136,10 @@ public final class JudgedCodes {
 
     public int told(int t, int what) {
         Strand strand = machine.find(t);
-        return strand == null ? MISSING : strand.tell(what);
+        if (strand == null) {
+            return MISSING;
+        }
+        return what == AWAITED ? machine.awaitedBy(strand) : strand.tell(what);
     }
 
     public int object(int o, int what) {
@@ -759,7 +765,6 @@ public final class JudgedCodes {
         private int steps;
         private int state;
         private int outcome;
-        private int awaited;
 
         Strand(int number) {
             this.number = number;
@@ -773,7 +778,6 @@ public final class JudgedCodes {
             steps = 0;
             state = MAY_GO_ON;
             outcome = 0;
-            awaited = 0;
             beginFrame(code);
         }
 
@@ -816,23 +820,12 @@ public final class JudgedCodes {
             return state;
         }
 
-        int awaited() {
-            return awaited;
-        }
-
         void end(int newState, int newOutcome) {
             state = newState;
             outcome = newOutcome;
         }
 
-        void waitFor(int o) {
-            state = WAITS;
-            awaited = o;
-        }
-
         void countStep() {
-            state = MAY_GO_ON;
-            awaited = 0;
             steps++;
         }
 
@@ -845,7 +838,6 @@ public final class JudgedCodes {
                 case 3 -> top == null || top.ownCode() == null ? -1 : top.ownCode().number;
                 case 4 -> top == null ? -1 : top.at();
                 case 5 -> top == null ? 0 : top.depth();
-                case 6 -> awaited;
                 default -> MISSING;
             };
         }
@@ -902,20 +894,34 @@ public final class JudgedCodes {
                 if (heap.isFull()) {
                     return FULL;
                 }
-                if (!tryStep(strand)) {
+                if (awaitedBy(strand) != 0) {
                     break;
                 }
+                step(strand);
             }
-            return strand.state();
+            return awaitedBy(strand) != 0 ? WAITS : strand.state();
         }
 
-        /** A thread that waited may have been let on since: so its monitor is looked at anew. */
+        /**
+         * The object whose monitor a thread is to enter while another one holds it, or 0. It is not kept, as
+         * what other threads do, or how they end, lets a thread on or makes it wait.
+         */
+        int awaitedBy(Strand strand) {
+            Frame frame = strand.top();
+            Code code = frame == null ? null : frame.ownCode();
+            if (code == null || code.op(frame.at()) != ENTER) {
+                return 0;
+            }
+            Thing thing = heap.find(frame.peek(0));
+            return thing != null && thing.isHeldByAnotherThan(strand.number()) ? frame.peek(0) : 0;
+        }
+
         int countStuck() {
             int count = 0;
             for (int t = 0; t < strandCount; t++) {
                 Strand strand = find(t);
                 if (strand != null && !strand.hasEnded()) {
-                    if (!isHeldByAnother(strand.awaited(), strand)) {
+                    if (awaitedBy(strand) == 0) {
                         return 0;
                     }
                     count++;
@@ -924,31 +930,20 @@ public final class JudgedCodes {
             return count;
         }
 
-        private boolean isHeldByAnother(int o, Strand strand) {
-            Thing thing = heap.find(o);
-            return thing != null && thing.isHeldByAnotherThan(strand.number());
-        }
-
-        /** Whether a step was done; if not, the thread waits. */
-        private boolean tryStep(Strand strand) {
+        private void step(Strand strand) {
             Frame frame = strand.top();
             Code code = frame == null ? null : frame.ownCode();
             if (code == null) {
-                return false;
-            }
-            int op = code.op(frame.at());
-            if (op == ENTER && isHeldByAnother(frame.peek(0), strand)) {
-                strand.waitFor(frame.peek(0));
-                return false;
+                return;
             }
             strand.countStep();
+            int op = code.op(frame.at());
             int failure = failureOf(strand, frame, op);
             if (failure == NO_FAILURE) {
                 perform(strand, frame, op, code.operand(frame.at()));
             } else {
                 raise(strand, heap.make(failure));
             }
-            return true;
         }
 
         /** The kind of the failure of an instruction, found before it takes anything. */

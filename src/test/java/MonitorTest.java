@@ -4,9 +4,14 @@ public final class MonitorTest {
         enteredOften();
         heldByAnother();
         waiting();
+        standingAtAnEnter();
+        letOnByAnEnd();
+        takenByAThird();
+        waitingForNoOther();
         endedHoldsNone();
         endedByFailureHoldsNone();
         stuckInARing();
+        stuckBeforeTheyTry();
         notStuck();
         waitingWithoutRoom();
         Check.end();
@@ -55,7 +60,8 @@ public final class MonitorTest {
     private static void waiting() {
         JudgedCodes x = held();
         x.run(1, 9);
-        Check.due("a step before it waits", x.run(2, 1), 0);
+        Check.due("at first it may go on", x.run(2, 0), 0);
+        Check.due("and waits for none", x.told(2, 6), 0);
         Check.due("it waits", x.run(2, 9), 3);
         Check.due("for object 1", x.told(2, 6), 1);
         Check.due("one step was done", x.told(2, 0), 1);
@@ -67,14 +73,90 @@ public final class MonitorTest {
         Check.due("the other one may go on", x.stuck(), 0);
         Check.due("it leaves", x.run(0, 2), 0);
         Check.due("none holds it", x.object(1, 1), -1);
-        Check.due("it waits until it is run again", x.told(2, 6), 1);
+        Check.due("so it waits for none", x.told(2, 6), 0);
+        Check.due("it may go on", x.run(2, 0), 0);
         Check.due("it could go on", x.stuck(), 0);
         Check.due("now it enters", x.run(2, 1), 0);
-        Check.due("and waits for none", x.told(2, 6), 0);
+        Check.due("and waits for none still", x.told(2, 6), 0);
         Check.due("it holds it", x.object(1, 1), 2);
         Check.due("its end", x.run(2, 9), 1);
         Check.due("its outcome", x.told(2, 2), 9);
         Check.due("none holds it again", x.object(1, 1), -1);
+    }
+
+    /** A thread whose last step brings it to the enter waits there before it tries. */
+    private static void standingAtAnEnter() {
+        JudgedCodes x = held();
+        Check.due("one step, and it waits", x.run(2, 1), 3);
+        Check.due("for object 1", x.told(2, 6), 1);
+        Check.due("no step more, and it waits", x.run(2, 0), 3);
+        Check.due("one step was done", x.told(2, 0), 1);
+        x.run(0, 2);
+        Check.due("left, it waits for none", x.told(2, 6), 0);
+        Check.due("left, it may go on", x.run(2, 0), 0);
+    }
+
+    /** The holder ends, by a return or by a failure: who waited for its monitor may go on. */
+    private static void letOnByAnEnd() {
+        for (int end = 1; end <= 2; end++) {
+            JudgedCodes x = new JudgedCodes();
+            Check.code(x, 0, 0, "", Check.NEW, 0, Check.SET_GLOBAL, 1, Check.GLOBAL, 1, Check.ENTER, 0,
+                    Check.PUSH, end, Check.PUSH, 2, Check.SUB, 0, Check.ZERO, 9, Check.RETURN, 0,
+                    Check.NULL, 0, Check.THROW, 0);
+            Check.code(x, 0, 1, "", Check.GLOBAL, 1, Check.ENTER, 0, Check.PUSH, 8, Check.RETURN, 0);
+            x.thread(0);
+            x.thread(1);
+            x.run(0, 4);
+            Check.due("it waits", x.run(1, 2), 3);
+            Check.due("for object 1", x.told(1, 6), 1);
+            Check.due("the holder ends", x.run(0, 9), end);
+            Check.due("it waits for none", x.told(1, 6), 0);
+            Check.due("it may go on", x.run(1, 0), 0);
+            Check.due("none is stuck", x.stuck(), 0);
+            Check.due("it goes on", x.run(1, 9), 1);
+            Check.due("to its end", x.told(1, 2), 8);
+            Check.due("an ended thread waits for none", x.told(1, 6), 0);
+        }
+    }
+
+    /** What was left is entered by a third thread: then it is that one's end that lets on. */
+    private static void takenByAThird() {
+        JudgedCodes x = new JudgedCodes();
+        Check.code(x, 0, 0, "", Check.NEW, 0, Check.SET_GLOBAL, 0, Check.RETURN, 0);
+        Check.code(x, 0, 0, "", Check.GLOBAL, 0, Check.ENTER, 0, Check.RETURN, 0);
+        for (int t = 0; t < 4; t++) {
+            x.thread(Math.min(t, 1));
+        }
+        x.run(0, 9);
+        x.run(1, 2);
+        Check.due("thread 2 waits", x.run(2, 9), 3);
+        Check.due("thread 3 waits", x.run(3, 9), 3);
+        x.run(1, 9);
+        Check.due("both may go on", x.told(2, 6) + x.told(3, 6), 0);
+        Check.due("thread 3 is the first", x.run(3, 1), 0);
+        Check.due("so thread 2 waits again", x.told(2, 6), 1);
+        Check.due("though it has not tried", x.run(2, 0), 3);
+        Check.due("the holder does not wait", x.told(3, 6), 0);
+        x.run(3, 9);
+        Check.due("it may go on at last", x.run(2, 0), 0);
+        Check.due("and ends", x.run(2, 9), 1);
+    }
+
+    /** An enter of one's own monitor, of a free one, or of null is none that waits. */
+    private static void waitingForNoOther() {
+        JudgedCodes x = new JudgedCodes();
+        Check.code(x, 0, 0, "", Check.NEW, 0, Check.DUP, 0, Check.ENTER, 0, Check.ENTER, 0, Check.NULL, 0,
+                Check.ENTER, 0, Check.RETURN, 0);
+        x.thread(0);
+        int[] before = {2, 1, 2};
+        for (int n : before) {
+            Check.due("it may go on", x.run(0, n), 0);
+            Check.due("it is at an enter", x.told(0, 4) == 2 || x.told(0, 4) == 3 || x.told(0, 4) == 5 ? 1 : 0, 1);
+            Check.due("it waits for none", x.told(0, 6), 0);
+            Check.due("it is not stuck", x.stuck(), 0);
+        }
+        Check.due("null is a failure", x.run(0, 1), 2);
+        Check.due("of its kind", x.object(x.told(0, 2), 0), 6);
     }
 
     private static void endedHoldsNone() {
@@ -135,6 +217,15 @@ public final class MonitorTest {
             x.reset();
             Check.due("no threads", x.stuck(), 0);
         }
+    }
+
+    private static void stuckBeforeTheyTry() {
+        JudgedCodes x = ring(3);
+        for (int t = 0; t < 3; t++) {
+            Check.due("not all are at their enter", x.stuck(), 0);
+            Check.due("the step up to the enter", x.run(t, 1), 3);
+        }
+        Check.due("none could go on", x.stuck(), 3);
     }
 
     private static void notStuck() {
