@@ -765,6 +765,7 @@ public final class JudgedCodes {
         private int steps;
         private int state;
         private int outcome;
+        private boolean isStopped;
 
         Strand(int number) {
             this.number = number;
@@ -778,6 +779,7 @@ public final class JudgedCodes {
             steps = 0;
             state = MAY_GO_ON;
             outcome = 0;
+            isStopped = false;
             beginFrame(code);
         }
 
@@ -827,6 +829,16 @@ public final class JudgedCodes {
 
         void countStep() {
             steps++;
+            isStopped = false;
+        }
+
+        /** Its enter was to be done, and was not, as another thread held the monitor. */
+        void stop() {
+            isStopped = true;
+        }
+
+        boolean isStopped() {
+            return isStopped;
         }
 
         int tell(int what) {
@@ -894,7 +906,8 @@ public final class JudgedCodes {
                 if (heap.isFull()) {
                     return FULL;
                 }
-                if (awaitedBy(strand) != 0) {
+                if (objectHeldAgainst(strand) != 0) {
+                    strand.stop();
                     break;
                 }
                 step(strand);
@@ -903,10 +916,15 @@ public final class JudgedCodes {
         }
 
         /**
-         * The object whose monitor a thread is to enter while another one holds it, or 0. It is not kept, as
-         * what other threads do, or how they end, lets a thread on or makes it wait.
+         * The object whose monitor a thread waits for, or 0. That it was stopped does not say so alone, as what
+         * other threads do, or how they end, lets it on.
          */
         int awaitedBy(Strand strand) {
+            return strand.isStopped() ? objectHeldAgainst(strand) : 0;
+        }
+
+        /** The object whose monitor a thread is to enter, tried or not, while another one holds it, or 0. */
+        private int objectHeldAgainst(Strand strand) {
             Frame frame = strand.top();
             Code code = frame == null ? null : frame.ownCode();
             if (code == null || code.op(frame.at()) != ENTER) {

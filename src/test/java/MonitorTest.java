@@ -5,15 +5,18 @@ public final class MonitorTest {
         heldByAnother();
         waiting();
         standingAtAnEnter();
+        standingAtTheNextEnter();
+        standingAtAnEnterAnew();
         letOnByAnEnd();
         takenByAThird();
         waitingForNoOther();
         endedHoldsNone();
         endedByFailureHoldsNone();
         stuckInARing();
-        stuckBeforeTheyTry();
+        stuckOnceTheyWait();
         notStuck();
         waitingWithoutRoom();
+        atAnEnterWithoutRoom();
         Check.end();
     }
 
@@ -84,16 +87,55 @@ public final class MonitorTest {
         Check.due("none holds it again", x.object(1, 1), -1);
     }
 
-    /** A thread whose last step brings it to the enter waits there before it tries. */
+    /** A thread whose last step brings it to the enter does not wait before that was to be done. */
     private static void standingAtAnEnter() {
         JudgedCodes x = held();
-        Check.due("one step, and it waits", x.run(2, 1), 3);
+        Check.due("one step, and it may go on", x.run(2, 1), 0);
+        Check.due("it is at the enter", x.told(2, 4), 1);
+        Check.due("it waits for none", x.told(2, 6), 0);
+        Check.due("no step is asked for", x.run(2, 0), 0);
+        Check.due("it waits for none still", x.told(2, 6), 0);
+        Check.due("one step more, and it waits", x.run(2, 1), 3);
         Check.due("for object 1", x.told(2, 6), 1);
         Check.due("no step more, and it waits", x.run(2, 0), 3);
         Check.due("one step was done", x.told(2, 0), 1);
         x.run(0, 2);
         Check.due("left, it waits for none", x.told(2, 6), 0);
         Check.due("left, it may go on", x.run(2, 0), 0);
+    }
+
+    /** What was waited for once is no reason to wait at the next enter before that was to be done. */
+    private static void standingAtTheNextEnter() {
+        JudgedCodes x = new JudgedCodes();
+        Check.code(x, 0, 0, "", Check.NEW, 0, Check.SET_GLOBAL, 0, Check.NEW, 1, Check.SET_GLOBAL, 1,
+                Check.GLOBAL, 0, Check.ENTER, 0, Check.GLOBAL, 1, Check.ENTER, 0, Check.GLOBAL, 0, Check.LEAVE, 0,
+                Check.RETURN, 0);
+        Check.code(x, 0, 0, "", Check.GLOBAL, 1, Check.GLOBAL, 0, Check.ENTER, 0, Check.ENTER, 0, Check.RETURN, 0);
+        x.thread(0);
+        x.thread(1);
+        x.run(0, 8);
+        Check.due("it waits", x.run(1, 3), 3);
+        Check.due("for the first one", x.told(1, 6), 1);
+        x.run(0, 2);
+        Check.due("it enters the first one", x.run(1, 1), 0);
+        Check.due("and is at the enter of the second", x.told(1, 4), 3);
+        Check.due("which it does not wait for yet", x.told(1, 6), 0);
+        Check.due("no step is asked for", x.run(1, 0), 0);
+        Check.due("one is", x.run(1, 1), 3);
+        Check.due("it waits for the second one", x.told(1, 6), 2);
+    }
+
+    /** Threads begin anew behind a reset: none waits for what one of that number waited for. */
+    private static void standingAtAnEnterAnew() {
+        JudgedCodes x = held();
+        Check.due("it waits", x.run(2, 9), 3);
+        x.reset();
+        for (int t = 0; t < 3; t++) {
+            x.thread(t);
+        }
+        x.run(0, 4);
+        Check.due("anew, one step, and it may go on", x.run(2, 1), 0);
+        Check.due("anew, it waits for none", x.told(2, 6), 0);
     }
 
     /** The holder ends, by a return or by a failure: who waited for its monitor may go on. */
@@ -135,7 +177,7 @@ public final class MonitorTest {
         Check.due("both may go on", x.told(2, 6) + x.told(3, 6), 0);
         Check.due("thread 3 is the first", x.run(3, 1), 0);
         Check.due("so thread 2 waits again", x.told(2, 6), 1);
-        Check.due("though it has not tried", x.run(2, 0), 3);
+        Check.due("and no step is asked for", x.run(2, 0), 3);
         Check.due("the holder does not wait", x.told(3, 6), 0);
         x.run(3, 9);
         Check.due("it may go on at last", x.run(2, 0), 0);
@@ -219,11 +261,15 @@ public final class MonitorTest {
         }
     }
 
-    private static void stuckBeforeTheyTry() {
+    /** Threads that are at their enters, none of which could be done, are stuck once all were to be done. */
+    private static void stuckOnceTheyWait() {
         JudgedCodes x = ring(3);
         for (int t = 0; t < 3; t++) {
-            Check.due("not all are at their enter", x.stuck(), 0);
-            Check.due("the step up to the enter", x.run(t, 1), 3);
+            Check.due("the step up to the enter", x.run(t, 1), 0);
+        }
+        for (int t = 0; t < 3; t++) {
+            Check.due("not all wait", x.stuck(), 0);
+            Check.due("the enter is to be done", x.run(t, 1), 3);
         }
         Check.due("none could go on", x.stuck(), 3);
     }
@@ -272,5 +318,20 @@ public final class MonitorTest {
         x.run(3, 10000);
         Check.due("a thread that waits, without room", x.run(1, 1), -12);
         Check.due("it waits on", x.told(1, 6), 2);
+    }
+
+    /** Without room the enter's step is not begun: it is not the monitor that the thread is kept by. */
+    private static void atAnEnterWithoutRoom() {
+        JudgedCodes x = held();
+        x.reset();
+        Check.code(x, 0, 0, "", Check.NEW, 5, Check.POP, 0, Check.JUMP, 0);
+        x.thread(0);
+        x.thread(2);
+        x.thread(3);
+        x.run(0, 4);
+        x.run(1, 1);
+        Check.due("all room is taken", x.run(2, 10000), -12);
+        Check.due("no step is begun", x.run(1, 1), -12);
+        Check.due("it waits for none", x.told(1, 6), 0);
     }
 }
