@@ -901,16 +901,17 @@ public final class JudgedCodes {
             return strandCount - 1;
         }
 
+        /** Want of room is told only of a thread that may do a step: one that waits is kept by the monitor. */
         int advance(Strand strand, int n) {
-            for (int i = 0; i < n && !strand.hasEnded(); i++) {
+            for (int i = 0; i < n && !strand.hasEnded() && awaitedBy(strand) == 0; i++) {
                 if (heap.isFull()) {
                     return FULL;
                 }
                 if (objectHeldAgainst(strand) != 0) {
                     strand.stop();
-                    break;
+                } else {
+                    step(strand);
                 }
-                step(strand);
             }
             return awaitedBy(strand) != 0 ? WAITS : strand.state();
         }

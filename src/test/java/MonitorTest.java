@@ -16,6 +16,8 @@ public final class MonitorTest {
         stuckOnceTheyWait();
         notStuck();
         waitingWithoutRoom();
+        letOnWithoutRoom();
+        waitingWithoutRoomForLife();
         atAnEnterWithoutRoom();
         Check.end();
     }
@@ -297,7 +299,7 @@ public final class MonitorTest {
         Check.due("all have ended", z.stuck(), 0);
     }
 
-    /** An ended thread beside those that are stuck does not count, and no step is begun without room. */
+    /** An ended thread beside those that are stuck does not count; those wait, and that is told without room too. */
     private static void waitingWithoutRoom() {
         JudgedCodes x = new JudgedCodes();
         Check.code(x, 0, 0, "", Check.RETURN, 0);
@@ -316,8 +318,57 @@ public final class MonitorTest {
         Check.due("two of three are stuck", x.stuck(), 2);
         x.thread(1);
         x.run(3, 10000);
-        Check.due("a thread that waits, without room", x.run(1, 1), -12);
-        Check.due("it waits on", x.told(1, 6), 2);
+        Check.due("a thread that may go on, without room", x.run(3, 1), -12);
+        for (int t = 1; t <= 2; t++) {
+            Check.due("a thread that waits, without room", x.run(t, 1), 3);
+            Check.due("or with more steps", x.run(t, 10000), 3);
+            Check.due("or with none", x.run(t, 0), 3);
+            Check.due("it waits on", x.told(t, 6), 3 - t);
+            Check.due("no step more is done", x.told(t, 0), 5);
+        }
+        Check.due("steps outside 0 .. 10000 of one that waits", x.run(1, 10001), -14);
+        Check.due("an ended thread, without room", x.run(0, 1), 1);
+    }
+
+    /** One that waited, and was let on before the room was gone, waits no more: it is kept by want of room. */
+    private static void letOnWithoutRoom() {
+        JudgedCodes x = held();
+        x.reset();
+        Check.code(x, 0, 0, "", Check.NEW, 5, Check.POP, 0, Check.JUMP, 0);
+        x.thread(0);
+        x.thread(2);
+        x.thread(3);
+        x.run(0, 4);
+        Check.due("it waits", x.run(1, 9), 3);
+        Check.due("the holder leaves", x.run(0, 2), 0);
+        Check.due("all room is taken", x.run(2, 10000), -12);
+        Check.due("it waits for none", x.told(1, 6), 0);
+        Check.due("no step is asked for", x.run(1, 0), 0);
+        Check.due("one is, and not begun", x.run(1, 1), -12);
+    }
+
+    /** Objects made for life are no room either, behind a reset too: who waits then, waits. */
+    private static void waitingWithoutRoomForLife() {
+        JudgedCodes x = held();
+        x.reset();
+        Check.code(x, 0, 0, "", Check.NEW, 5, Check.POP, 0, Check.JUMP, 0);
+        for (int i = 0; i < 19; i++) {
+            x.thread(3);
+            Check.due("2000 more", x.run(0, 10000), -12);
+            x.reset();
+        }
+        x.thread(3);
+        x.run(0, 3 * 1990);
+        x.reset();
+        x.thread(0);
+        x.thread(2);
+        x.thread(3);
+        x.run(0, 4);
+        Check.due("it waits", x.run(1, 9), 3);
+        Check.due("the last ones for life", x.run(2, 10000), -12);
+        Check.due("less than 2000 of them are there", x.object(20, 0), -14);
+        Check.due("it waits, without room for life", x.run(1, 9), 3);
+        Check.due("for object 1", x.told(1, 6), 1);
     }
 
     /** Without room the enter's step is not begun: it is not the monitor that the thread is kept by. */
