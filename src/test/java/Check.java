@@ -5,17 +5,26 @@ final class Check {
     static final int PUT = 17, CALL = 18, THROW = 19, ENTER = 20, LEAVE = 21, RETURN = 22, REF_GET = 23;
     static final int REF_PUT = 24, GLOBAL = 25, SET_GLOBAL = 26;
 
+    /** The numbers farthest from all that is asked for. */
+    static final int MIN = Integer.MIN_VALUE, MAX = Integer.MAX_VALUE;
+
     private static int wrong = 0;
     private static int checked = 0;
+    private static String sentence = "";
 
     private Check() {
+    }
+
+    /** The words of the document that the next answers are due by; they are told with each wrong one. */
+    static void sentence(String words) {
+        sentence = "\"" + words + "\" -- ";
     }
 
     static void due(String call, long got, long want) {
         checked++;
         if (got != want) {
             wrong++;
-            System.out.println(call + " answered " + got + ", due is " + want);
+            System.out.println(sentence + call + " answered " + got + ", due is " + want);
         }
     }
 
