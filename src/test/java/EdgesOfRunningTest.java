@@ -26,6 +26,7 @@ public final class EdgesOfRunningTest {
         thrownAtTheCall();
         thrownThroughAllFrames();
         endedHoldsNoMonitor();
+        calledFiveHundredTimes();
         Check.end();
     }
 
@@ -455,5 +456,18 @@ public final class EdgesOfRunningTest {
             Check.due("the second is free", x.object(2, 1) * 10 + x.object(2, 2), -10);
             Check.due("another thread's is not", x.object(3, 1) * 10 + x.object(3, 2), 11);
         }
+    }
+
+    /** 512 calls in all, most of them as long as a run may be. */
+    private static void calledFiveHundredTimes() {
+        Check.sentence("An object is used for at most 512 calls after it has been made");
+        JudgedCodes x = new JudgedCodes();
+        x.code(0, 0);
+        x.add(Check.JUMP, 0);
+        x.thread(0);
+        for (int call = 4; call <= 511; call++) {
+            Check.due("call " + call, x.run(0, 10000), 0);
+        }
+        Check.due("call 512", x.told(0, 0), 508 * 10000);
     }
 }
